@@ -25,12 +25,8 @@ final class Both {
             return 0;
         }
         calls++;
-        StringBuilder text = new StringBuilder(call).append('(');
-        for (int i = 0; i < a.length; i++) {
-            text.append(i == 0 ? "" : ", ").append(a[i]);
-        }
-        text.append(')');
-        int got = ofProgram(call, a);
+        String text = Calls.text(call, a);
+        int got = Calls.of(program, call, a);
         int want = ofModel(call, a);
         if (got != want && check.wrong() < 3) {
             System.out.println(name + told + " ..");
@@ -38,37 +34,6 @@ final class Both {
         told.append(' ').append(text).append('=').append(want);
         check.due(name + " .. " + text, got, want);
         return want;
-    }
-
-    private int ofProgram(String call, int[] a) {
-        TimesByPowers x = program;
-        return switch (call) {
-            case "row" -> x.row(a[0], a[1], a[2]);
-            case "set" -> x.set(a[0], a[1], a[2]);
-            case "copy" -> x.copy(a[0], a[1], a[2], a[3], a[4]);
-            case "drop" -> x.drop(a[0]);
-            case "field" -> x.field(a[0], a[1], a[2]);
-            case "world" -> x.world(a[0], a[1], a[2], a[3]);
-            case "turn" -> x.turn(a[0], a[1], a[2]);
-            case "map" -> x.map(a[0], a[1], a[2], a[3], a[4]);
-            case "clear" -> x.clear(a[0]);
-            case "told" -> x.told(a[0], a[1]);
-            case "acts" -> x.acts(a[0], a[1], a[2]);
-            case "sum" -> x.sum(a[0], a[1], a[2]);
-            case "order" -> x.order(a[0], a[1]);
-            case "kernel" -> x.kernel(a[0], a[1], a[2]);
-            case "back" -> x.back(a[0], a[1], a[2], a[3], a[4]);
-            case "alike" -> x.alike(a[0], a[1]);
-            case "stays" -> x.stays(a[0]);
-            case "kind" -> x.kind(a[0]);
-            case "is" -> x.is(a[0], a[1]);
-            case "as" -> x.as(a[0], a[1]);
-            case "ask" -> x.ask(a[0], a[1]);
-            case "trace" -> x.trace(a[0]);
-            case "count" -> x.count(a[0]);
-            case "status" -> x.status();
-            default -> throw new IllegalArgumentException(call);
-        };
     }
 
     private int ofModel(String call, int[] a) {

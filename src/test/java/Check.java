@@ -2,19 +2,29 @@
 final class Check {
     private int calls = 0;
     private int wrong = 0;
+    private String sentence = "";
+
+    /** What follows is told under this name. */
+    void begin(String name) {
+        sentence = name + ": ";
+    }
 
     void due(String call, long got, long want) {
         calls++;
         if (got != want) {
             wrong++;
             if (wrong <= 50) {
-                System.out.println(call + " answered " + got + ", due is " + want);
+                System.out.println(sentence + call + " answered " + got + ", due is " + want);
             }
         }
     }
 
     void holds(String what, boolean holds) {
         due(what, holds ? 1 : 0, 1);
+    }
+
+    int calls() {
+        return calls;
     }
 
     int wrong() {
