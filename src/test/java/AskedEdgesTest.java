@@ -101,6 +101,22 @@ public final class AskedEdgesTest {
         }
     }
 
+    /** Where d is 2, OWN's sum begins at 2 or at 4, and HEIGHT is 1 or 2. */
+    static void p11HeightIsCountedByD() {
+        TimesByPowers x = new TimesByPowers(2, 2);
+        int[][] worlds = {{3, 1}, {3, 0, 1}, {3, 2, 1}};
+        int[] first = {2, 2, 4};
+        for (int k = 0; k < worlds.length; k++) {
+            Edges.put(x, 0, worlds[k]);
+            due(x, 7, "told", 0, 5);
+            for (int i = 0; i < first[k]; i++) {
+                due(x, 0, "sum", 0, 7, i);
+            }
+            CHECK.holds("number " + first[k], x.sum(0, 7, first[k]) != 0);
+            due(x, first[k] / 2, "told", 0, 6);
+        }
+    }
+
     /** Y to the n changes nothing: with n 6, Y Y Y has LEAST T T - 1, WHOLE its third power. */
     static void p11WholeAndLeastAtTheirMost() {
         TimesByPowers x = new TimesByPowers(2, 6);
@@ -707,5 +723,51 @@ public final class AskedEdgesTest {
         due(x, NULL, "kind", 9);
         due(x, NONE, "kernel", 0, 1, 1);
         due(x, 0, "status");
+    }
+
+    static void p25CallsThatFindNothingMakeIt0() {
+        makesIt0("row", new int[][] {{4, 0, 0}, {0, 1, 24}});
+        makesIt0("set", new int[][] {{0, 0, 0}, {0, 23, -1}});
+        makesIt0("copy", new int[][] {{0, 0, 0, 1, 2}, {0, 24, 3, 0, 0}});
+        makesIt0("drop", new int[][] {{0}, {3}});
+        makesIt0("world", new int[][] {{0, 0, 0, 1}, {9, 0, 20, 3}});
+        makesIt0("turn", new int[][] {{0, 0, 1}, {9, 2, 26}});
+        makesIt0("map", new int[][] {{0, 0, 0, 0, 1}, {9, 3, 0, 19, 4}});
+        makesIt0("told", new int[][] {{1, 0}, {1, 1}, {1, 2}, {1, 3}, {1, 4}, {1, 5}, {1, 6}, {1, 7},
+            {1, 8}, {1, 9}, {2, 9}});
+        makesIt0("acts", new int[][] {{0, 0, 0}, {3, 2186, 26}});
+        makesIt0("sum", new int[][] {{0, 0, -1}, {0, 0, 0}, {0, 3, 1}, {0, 3, MAX}});
+        makesIt0("order", new int[][] {{0, 0}, {3, 26}});
+        makesIt0("kernel", new int[][] {{0, 0, NONE}, {0, 0, 0}, {0, 1, 1}, {0, 1, -1}});
+        makesIt0("back", new int[][] {{0, 0, 0, 1, -2}, {0, 0, 0, 1, -1}, {0, 0, 0, 1, 0},
+            {0, 0, 0, 1, MAX}});
+        makesIt0("alike", new int[][] {{0, 0}, {0, 1}});
+        makesIt0("stays", new int[][] {{0}});
+        makesIt0("kind", new int[][] {{0}, {3}});
+        makesIt0("as", new int[][] {{0, 0}, {2, 2}});
+        makesIt0("ask", new int[][] {{0, 0}, {0, 1}});
+    }
+
+    private static void makesIt0(String call, int[][] given) {
+        for (int[] a : given) {
+            TimesByPowers x = Edges.sample();
+            due(x, STORE, "copy", 0, 0, 1, 0, 1);
+            due(x, 5, "status");
+            Calls.of(x, call, a);
+            CHECK.due("status() after " + Calls.text(call, a), x.status(), 0);
+        }
+    }
+
+    static void p25TheLatestOfSeveral() {
+        TimesByPowers x = Edges.sample();
+        due(x, STORE, "copy", 0, 0, 1, 0, 1);
+        due(x, PLACE, "set", 0, 24, 0);
+        due(x, 2, "status");
+        due(x, KIND, "as", 0, 4);
+        due(x, NULL, "drop", 4);
+        due(x, 1, "status");
+        due(x, NULL, "drop", 4);
+        due(x, SIZE, "row", 4, 0, -1);
+        due(x, 4, "status");
     }
 }
