@@ -113,7 +113,7 @@ public final class TimesByPowers {
         return b == 0 ? NONE : elements.times(a, elements.inverse(b));
     }
 
-    // ---- worlds
+    // ---- worlds (places: of THE SHELF; all tell the KIND of what a place has then)
 
     public int world(int place, int row, int i, int r) {
         if (!isPlace(place) || !isRow(row) || r < 1 || r > MOST_R) {

@@ -1,3 +1,4 @@
+import java.io.IOException;
 import java.lang.management.ManagementFactory;
 import java.lang.reflect.Constructor;
 import java.lang.reflect.Field;
@@ -20,9 +21,16 @@ public final class FaceTest {
         "told 2", "acts 3", "sum 3", "order 2", "kernel 3", "back 5", "alike 2", "stays 1",
         "kind 1", "is 2", "as 2", "ask 2", "trace 1", "count 1", "status 0"));
 
-    public static void main(String[] args) throws Exception {
+    private static final String[] IN_ORDER = {"---- rows", "row", "set", "copy", "drop",
+        "---- the field", "field",
+        "---- worlds (places: of THE SHELF; all tell the KIND of what a place has then)", "world",
+        "turn", "map", "clear", "---- asked", "told", "acts", "sum", "order", "kernel", "back",
+        "alike", "stays", "kind", "is", "as", "ask", "trace", "count", "status"};
+
+    public static void main(String[] args) throws IOException {
         face();
         names();
+        headings();
         words();
         room();
         CHECK.end("FaceTest");
@@ -79,17 +87,36 @@ public final class FaceTest {
                 CHECK.holds(method + " bears no call's name", !calls.contains(method.getName()));
                 CHECK.holds(method + " takes seven at most", method.getParameterCount() <= 7);
             }
+            int fields = 0;
             for (Field field : type.getDeclaredFields()) {
-                CHECK.holds(field + " is final if static", !Modifier.isStatic(field.getModifiers())
-                    || Modifier.isFinal(field.getModifiers()));
+                boolean isStatic = Modifier.isStatic(field.getModifiers());
+                fields += isStatic ? 0 : 1;
+                CHECK.holds(field + " is final if static",
+                    !isStatic || Modifier.isFinal(field.getModifiers()));
             }
+            CHECK.holds(type + " has some twenty fields at most", fields <= 20);
         }
     }
 
-    private static void words() throws Exception {
-        Path source = Path.of(System.getProperty("project.root", "."),
-            "src", "main", "java", "TimesByPowers.java");
-        String text = Files.readString(source)
+    private static String source() throws IOException {
+        return Files.readString(Path.of(System.getProperty("project.root", "."),
+            "src", "main", "java", "TimesByPowers.java"));
+    }
+
+    /** The calls stand in the document's order, each part of them under what it says ahead. */
+    private static void headings() throws IOException {
+        String text = source();
+        int at = 0;
+        for (String part : IN_ORDER) {
+            String wanted = part.startsWith("----") ? "// " + part : "public int " + part + "(";
+            int next = text.indexOf(wanted, at);
+            CHECK.holds(wanted + " stands in its order", next >= 0);
+            at = Math.max(at, next);
+        }
+    }
+
+    private static void words() throws IOException {
+        String text = source()
             .replaceAll("(?s)/\\*.*?\\*/", " ").replaceAll("//[^\n]*", " ");
         String[] forbidden = {"throw", "throws", "try", "catch", "synchronized", "assert",
             "package", "double", "float", "Object", "System\\.(?!arraycopy)\\w+", "\\w+Exact",
